@@ -432,11 +432,7 @@ public final class WholeSolver {
 
     private boolean solutionHolds() {
         for (int e = 0; e < equationsTold; e++) {
-            long total = 0;
-            for (int j = 0; j < unknownsTold; j++) {
-                total += factors[e][j] * left[equationsTold + j];
-            }
-            if (total != sums[e]) {
+            if (sumOfUnknowns(e, left) != sums[e]) {
                 return false;
             }
         }
@@ -446,15 +442,20 @@ public final class WholeSolver {
     /** Whether the unknowns of row i have its sums: those of a basis row are 0. */
     private boolean rowHolds(int i) {
         for (int e = 0; e < equationsTold; e++) {
-            long total = 0;
-            for (int j = 0; j < unknownsTold; j++) {
-                total += factors[e][j] * whole.at(i, equationsTold + j);
-            }
-            if (total != whole.at(i, e)) {
+            if (sumOfUnknowns(e, whole.row(i)) != whole.at(i, e)) {
                 return false;
             }
         }
         return true;
+    }
+
+    /** The sum that equation e has with the unknowns that stand behind the row's equations. */
+    private long sumOfUnknowns(int e, long[] row) {
+        long total = 0;
+        for (int j = 0; j < unknownsTold; j++) {
+            total += factors[e][j] * row[equationsTold + j];
+        }
+        return total;
     }
 
     /** Rows of numbers that are put in and then brought to the form of what comes of them. */
@@ -485,6 +486,10 @@ public final class WholeSolver {
 
         long at(int i, int j) {
             return rows[i][j];
+        }
+
+        long[] row(int i) {
+            return rows[i];
         }
 
         int leadColumn(int i) {
