@@ -42,7 +42,8 @@ final class AnyCallsTest {
             } else {
                 int which = random.nextInt(12);
                 int[] a = {any(), any(), any()};
-                dues.due("query " + which + " of " + a[0] + ", " + a[1] + ", " + a[2], ask(x, which, a), ask(asTold(), which, a));
+                String query = "query " + which + " of " + a[0] + ", " + a[1] + ", " + a[2];
+                dues.due(query, ask(x, which, a), ask(asTold(), which, a));
             }
         } catch (RuntimeException thrown) {
             dues.holds("no throw: " + thrown, false);

@@ -54,7 +54,7 @@ final class OracleTest {
         int style = random.nextInt(5);
         int[][] factors = new int[k][4];
         int[] sums = new int[k];
-        int[] hidden = {random.nextInt(25) - 12, random.nextInt(25) - 12, random.nextInt(25) - 12, random.nextInt(25) - 12};
+        int[] hidden = random.ints(4, -12, 13).toArray();
         for (int e = 0; e < k; e++) {
             for (int j = 0; j < 4; j++) {
                 factors[e][j] = factor(random, style);

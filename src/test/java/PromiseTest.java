@@ -1,12 +1,12 @@
 /** Each promise of the document in turn: ordinary inputs, the edges that it names, wrong inputs. */
-final class PromiseTest {
-    private static final int NONE = -1;
-    private static final long NOTHING = -1000000000000000L;
-    private static final int[] FAR = {Integer.MIN_VALUE, -1000000, 1000000, Integer.MAX_VALUE};
-
-    private static final Dues DUES = new Dues();
-
+final class PromiseTest extends Dues {
     public static void main(String[] args) {
+        PromiseTest test = new PromiseTest();
+        test.eachPromise();
+        test.end();
+    }
+
+    private void eachPromise() {
         aNewObject();
         unknowns();
         equation();
@@ -24,54 +24,10 @@ final class PromiseTest {
         modulo();
         spread();
         check();
-        DUES.end();
     }
 
-    private static void due(String call, long got, long want) {
-        DUES.due(call, got, want);
-    }
-
-    private static WholeSolver solver(int unknowns, int[]... equations) {
-        WholeSolver x = new WholeSolver();
-        due("unknowns", x.unknowns(unknowns), 1);
-        for (int e = 0; e < equations.length; e++) {
-            int[] q = equations[e];
-            due("equation", x.equation(q[0], q[1], q[2], q[3], q[4]), e);
-        }
-        return x;
-    }
-
-    private static int[] eq(int a, int b, int c, int d, int sum) {
-        return new int[] {a, b, c, d, sum};
-    }
-
-    private static void counts(WholeSolver x, int reach, int basis, int equations, int unknowns) {
-        due("count(0)", x.count(0), reach);
-        due("count(1)", x.count(1), basis);
-        due("count(2)", x.count(2), equations);
-        due("count(3)", x.count(3), unknowns);
-    }
-
-    private static void solutionIs(WholeSolver x, long... want) {
-        for (int j = 0; j < want.length; j++) {
-            due("solution(" + j + ")", x.solution(j), want[j]);
-        }
-    }
-
-    private static void basisRowIs(WholeSolver x, int i, long... want) {
-        for (int j = 0; j < want.length; j++) {
-            due("basis(" + i + ", " + j + ")", x.basis(i, j), want[j]);
-        }
-    }
-
-    private static void reachRowIs(WholeSolver x, int i, long... want) {
-        for (int j = 0; j < want.length; j++) {
-            due("reach(" + i + ", " + j + ")", x.reach(i, j), want[j]);
-        }
-    }
-
-    private static void aNewObject() {
-        DUES.at("promise 1");
+    private void aNewObject() {
+        at("promise 1");
         WholeSolver x = new WholeSolver();
         counts(x, 0, 1, 0, 1);
         due("solve()", x.solve(), 1);
@@ -84,8 +40,8 @@ final class PromiseTest {
         counts(y, 0, 1, 0, 1);
     }
 
-    private static void unknowns() {
-        DUES.at("promise 2");
+    private void unknowns() {
+        at("promise 2");
         for (int n = 1; n <= 4; n++) {
             WholeSolver x = solver(1, eq(5, 0, 0, 0, 10), eq(3, 0, 0, 0, 7));
             due("unknowns(" + n + ")", x.unknowns(n), 1);
@@ -103,8 +59,8 @@ final class PromiseTest {
         due("fails()", x.fails(), NONE);
     }
 
-    private static void equation() {
-        DUES.at("promise 3");
+    private void equation() {
+        at("promise 3");
         WholeSolver x = new WholeSolver();
         x.unknowns(4);
         due("edges", x.equation(-9, 9, -9, 9, 1000), 0);
@@ -130,7 +86,7 @@ final class PromiseTest {
         afterNotLookedAt();
     }
 
-    private static void factorOfUnknown(int n, int j, int factor) {
+    private void factorOfUnknown(int n, int j, int factor) {
         WholeSolver x = solver(n);
         int[] f = {1, 1, 1, 1};
         f[j] = factor;
@@ -139,7 +95,7 @@ final class PromiseTest {
         due("equations then", x.count(2), j < n ? 0 : 1);
     }
 
-    private static void sumOfNewEquation(int n) {
+    private void sumOfNewEquation(int n) {
         for (int wrong : new int[] {1001, -1001, FAR[0], FAR[1], FAR[2], FAR[3]}) {
             WholeSolver x = solver(n);
             due("sum " + wrong, x.equation(1, 1, 1, 1, wrong), NONE);
@@ -147,7 +103,7 @@ final class PromiseTest {
         }
     }
 
-    private static void afterNotLookedAt() {
+    private void afterNotLookedAt() {
         WholeSolver x = solver(2);
         due("equation", x.equation(3, 5, 77, -77, 1), 0);
         due("invariant(1)", x.invariant(1), 1);
@@ -158,8 +114,8 @@ final class PromiseTest {
         solutionIs(x, 0, 0, 2, 0);
     }
 
-    private static void sum() {
-        DUES.at("promise 4");
+    private void sum() {
+        at("promise 4");
         WholeSolver x = solver(2, eq(2, 0, 0, 0, 6), eq(0, 5, 0, 0, 10));
         due("sum(0, -8)", x.sum(0, -8), 1);
         solutionIs(x, -4, 2);
@@ -183,8 +139,8 @@ final class PromiseTest {
         due("sum without equations", new WholeSolver().sum(0, 0), 0);
     }
 
-    private static void drop() {
-        DUES.at("promise 5");
+    private void drop() {
+        at("promise 5");
         WholeSolver x = solver(3, eq(2, 0, 0, 0, 4), eq(0, 3, 0, 0, 9), eq(0, 0, 4, 0, 5));
         due("solve()", x.solve(), NONE);
         due("drop()", x.drop(), 2);
@@ -204,8 +160,8 @@ final class PromiseTest {
         due("equation after that", x.equation(1, 1, 1, 1, 1), 0);
     }
 
-    private static void solve() {
-        DUES.at("promise 6");
+    private void solve() {
+        at("promise 6");
         due("no equation", solver(4).solve(), 4);
         due("one", solver(4, eq(1, 2, 3, 4, 5)).solve(), 3);
         due("three", solver(4, eq(1, 0, 0, 0, 5), eq(0, 1, 0, 0, 5), eq(0, 0, 1, 0, 5)).solve(), 1);
@@ -218,8 +174,8 @@ final class PromiseTest {
         due("0 = 1", solver(2, eq(0, 0, 0, 0, 1)).solve(), NONE);
     }
 
-    private static void fails() {
-        DUES.at("promise 7");
+    private void fails() {
+        at("promise 7");
         due("no equation", solver(4).fails(), NONE);
         due("the first", solver(2, eq(4, 6, 0, 0, 3), eq(0, 0, 0, 0, 1)).fails(), 0);
         due("the second", solver(2, eq(4, 6, 0, 0, 2), eq(2, 3, 0, 0, 2), eq(0, 0, 0, 0, 1)).fails(), 1);
@@ -232,8 +188,8 @@ final class PromiseTest {
         due("fails()", x.fails(), NONE);
     }
 
-    private static void solution() {
-        DUES.at("promise 8");
+    private void solution() {
+        at("promise 8");
         // 3x + 5y = 1: basis (5, -3), so x is from 0 to 4.
         solutionIs(solver(2, eq(3, 5, 0, 0, 1)), 2, -1, NOTHING, NOTHING);
         solutionIs(solver(2, eq(3, 5, 0, 0, -1)), 3, -2);
@@ -249,8 +205,8 @@ final class PromiseTest {
         }
     }
 
-    private static void basis() {
-        DUES.at("promise 9");
+    private void basis() {
+        at("promise 9");
         WholeSolver x = solver(3, eq(6, 4, 9, 0, 1));
         basisRowIs(x, 0, 1, 3, -2, NOTHING);
         basisRowIs(x, 1, 0, 9, -4, NOTHING);
@@ -269,8 +225,8 @@ final class PromiseTest {
         due("count(1)", y.count(1), 1);
     }
 
-    private static void count() {
-        DUES.at("promise 10");
+    private void count() {
+        at("promise 10");
         counts(solver(3), 0, 3, 0, 3);
         counts(solver(3, eq(1, 2, 3, 0, 4)), 1, 2, 1, 3);
         counts(solver(3, eq(1, 2, 3, 0, 4), eq(2, 4, 6, 0, 9)), 1, 2, 2, 3);
@@ -282,8 +238,8 @@ final class PromiseTest {
         }
     }
 
-    private static void reach() {
-        DUES.at("promise 11");
+    private void reach() {
+        at("promise 11");
         reachRowIs(solver(2, eq(4, -6, 0, 0, 1)), 0, 2, NOTHING);
         WholeSolver x = solver(2, eq(2, 1, 0, 0, 0), eq(0, 3, 0, 0, 0));
         reachRowIs(x, 0, 1, 3, NOTHING);
@@ -308,8 +264,8 @@ final class PromiseTest {
         reachRowIs(x, 0, 1, 3);
     }
 
-    private static void reached() {
-        DUES.at("promise 12");
+    private void reached() {
+        at("promise 12");
         WholeSolver x = solver(2, eq(2, 1, 0, 0, 0), eq(0, 3, 0, 0, 0));
         due("reached(1, 3, 9)", x.reached(1, 3, 9), 1);
         due("reached(1, 9, -9)", x.reached(1, 9, -9), 1);
@@ -332,8 +288,8 @@ final class PromiseTest {
         due("fails() all the same", z.fails(), 2);
     }
 
-    private static void invariant() {
-        DUES.at("promise 13");
+    private void invariant() {
+        at("promise 13");
         WholeSolver x = solver(3, eq(2, 0, 0, 0, 1), eq(0, 6, 0, 0, 1), eq(0, 0, 9, 0, 1));
         due("invariant(1)", x.invariant(1), 1);
         due("invariant(2)", x.invariant(2), 6);
@@ -359,8 +315,8 @@ final class PromiseTest {
         due("none", solver(4).invariant(1), NOTHING);
     }
 
-    private static void box() {
-        DUES.at("promise 14");
+    private void box() {
+        at("promise 14");
         WholeSolver x = solver(2, eq(1, 1, 0, 0, 5));
         due("box(0, 5)", x.box(0, 5), 6);
         due("box(0, 4)", x.box(0, 4), 4);
@@ -392,8 +348,8 @@ final class PromiseTest {
         due("its outside", solver(2, eq(1, 1, 0, 0, 5), eq(1, -1, 0, 0, 1)).box(3, 3), 0);
     }
 
-    private static void modulo() {
-        DUES.at("promise 15");
+    private void modulo() {
+        at("promise 15");
         WholeSolver x = solver(2, eq(4, 6, 0, 0, 2));
         due("modulo(1)", x.modulo(1), 1);
         due("modulo(2)", x.modulo(2), 4);
@@ -418,8 +374,8 @@ final class PromiseTest {
         due("against each other for 18", y.modulo(18), 0);
     }
 
-    private static void spread() {
-        DUES.at("promise 16");
+    private void spread() {
+        at("promise 16");
         due("no equation", solver(1).spread(), 1);
         due("one", solver(2, eq(6, 4, 0, 0, 2)).spread(), 1);
         due("just one", solver(2, eq(1, 1, 0, 0, 5), eq(1, -1, 0, 0, 1)).spread(), 0);
@@ -428,8 +384,8 @@ final class PromiseTest {
         due("0 = 0", solver(3, eq(0, 0, 0, 0, 0)).spread(), 1);
     }
 
-    private static void check() {
-        DUES.at("promise 17");
+    private void check() {
+        at("promise 17");
         due("no equation", solver(4).check(), 1);
         due("with a solution", solver(3, eq(2, -4, 9, 0, 7), eq(8, 6, -3, 0, -11)).check(), 1);
         due("without", solver(2, eq(6, 4, 0, 0, 1)).check(), 1);
